@@ -177,6 +177,11 @@ public final class StringsTest {
         DUE.is("r is asleep", x.doze(2), -1);
         x.rouse(0);
         DUE.is("p is up", x.doze(0), -1);
+        String two = "knot a plain holds 1; knot b plain holds 1; knot c plain holds 1; knot d dent holds 1;"
+                + "knot e plain holds 1; knot f plain holds 1; string a b; string a d; string b c; string d c; string c e;"
+                + "person p will 4 at a;";
+        DUE.is("with the lesser of two wills at c", Due.net(two).doze(0), 3);
+        DUE.is("with the greater of two wills at c", Due.net(two + "string e f;").goal(0, 5), 4);
         DUE.is("never at firm ones", Due.net("knot a firm holds 1; knot b firm holds 1; string a b; string b a;"
                 + "person p will 5 at a;").doze(0), -1);
     }
@@ -196,6 +201,8 @@ public final class StringsTest {
         DUE.is("behind four", x.tiles(0), 4);
         x.tie(1, 5);
         DUE.is("behind two", x.tiles(0), 2);
+        DUE.is("a slip that is the first", Due.net("knot a slip holds 3; knot b plain holds 3; string b a;"
+                + "person p will 9 at b;").tiles(0), 1);
         x.shift(0, 1);
         DUE.is("from b", x.tiles(0), 1);
     }
@@ -266,6 +273,15 @@ public final class StringsTest {
         DUE.is("y, the least set", Due.net(eitherSlip("knot y slip holds 9; knot x slip holds 9;")).held(), 16);
         x = Due.net("knot a plain holds 9; knot b slip holds 0; string a b; string b a; person p will 1 at a;");
         DUE.is("asleep at b", x.held(), 0);
+        DUE.is("x is no slip", Due.net(eitherSlip("knot x plain holds 9; knot y slip holds 9;")).held(), 32);
+        x = Due.net("knot x plain holds 9;" + eitherSlip("knot y slip holds 9;"));
+        DUE.is("x, the first, is no slip", x.held(), 32);
+        x = Due.net("knot a slip holds 3; knot b plain holds 3; string b a; person p will 9 at b;");
+        DUE.is("a slip that is the first", x.held(), 1);
+        x = tied(chain(8).replace("plain", "slip"), 7, 0);
+        DUE.is("nobody lies", x.held(), 0);
+        x = Due.net(chain(8).replace("plain", "slip") + "string h a; person p will 40 at a;");
+        DUE.is("all eight", x.held(), 255);
         x = Due.net("knot a plain holds 9; knot b slip holds 0; string a b; string b a; person p will 2 at a;");
         DUE.is("1 at b", x.held(), 2);
     }

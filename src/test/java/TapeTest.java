@@ -20,6 +20,8 @@ public final class TapeTest {
         faultsChangeNothing();
         restLines();
         netClearsAll();
+        netsOneBehindAnother();
+        faultsOneBehindAnother();
         DUE.end();
     }
 
@@ -234,6 +236,10 @@ public final class TapeTest {
         lulls("not 7 + 3", 3);
         lulls("not not 7", 1);
         lulls("not (1 < 1) * 4", 4);
+        lulls("not (not 7) + 2", 3);
+        lulls("(0 or 4) * 5", 5);
+        lulls("6 - (3 and 4)", 5);
+        lulls("not (1 and 0) + (2 or 0)", 2);
         lulls("3 and 4", 1);
         lulls("3 and 0", 0);
         lulls("0 or 0", 0);
@@ -353,5 +359,52 @@ public final class TapeTest {
         DUE.is("place", x.person(0, 1), 0);
         DUE.is("against", x.knot(0, 3), 0);
         DUE.is("lulls is 1 without one", x.shift(0, 1), 0);
+    }
+
+    /** What an earlier net told must not be in a later one, however many there have been. */
+    private static void netsOneBehindAnother() {
+        HammockNet x = new HammockNet();
+        String rich = "knot a slip holds 9; knot b dent holds 8; knot c firm holds 7; string a b; string b c;"
+                + "against a b; against c a; person p will 9 at a; person q will 8 at b; lulls 3 + 4;";
+        for (int i = 0; i < 3; i++) {
+            DUE.is("a rich net", Due.readNet(x, rich), 0);
+            DUE.is("a rich net again", Due.readNet(x, rich), 0);
+            x.shift(0, 1);
+            x.hour();
+            DUE.is("the will of all", x.count(6), 1);
+            DUE.is("a poor net", Due.readNet(x, "knot b plain holds 1; knot a plain holds 2; person q will 2 at a;"), 0);
+            DUE.is("two knots", x.count(0), 2);
+            DUE.is("no strings", x.count(1), 0);
+            DUE.is("one person", x.count(2), 1);
+            DUE.is("no hours", x.count(3), 0);
+            DUE.is("q at a", x.person(0, 1), 1);
+            DUE.is("q never shifted", x.person(0, 2), 0);
+            DUE.is("b is against nothing", x.knot(0, 3), 0);
+            DUE.is("a is against nothing", x.knot(1, 3), 0);
+            x.tie(1, 0);
+            DUE.is("lulled by 1", x.shift(0, 0), 1);
+        }
+    }
+
+    private static void faultsOneBehindAnother() {
+        HammockNet x = new HammockNet();
+        for (int i = 0; i < 3; i++) {
+            DUE.is("brackets left open", Due.readNet(x, "lulls 2 * ((1 + not"), Due.fault(1, 19));
+            String cut = PP + "string kk mm ; against kk mm ; lulls 4 ; knot";
+            DUE.is("a net cut short", Due.readNet(x, cut), Due.fault(1, cut.length()));
+            DUE.is("an end without brackets", Due.readNet(x, "lulls 1 ) ;"), Due.fault(1, 8));
+            DUE.is("a net", Due.readNet(x, TWO + "person p will 9 at mm ; lulls not not not not 0 + 2 ;"), 0);
+            DUE.is("without strings", x.count(1), 0);
+            DUE.is("against nothing", x.knot(0, 3), 0);
+            DUE.is("with one person", x.count(2), 1);
+            x.tie(1, 0);
+            DUE.is("by 2", x.shift(0, 0), 7);
+        }
+        for (int i = 0; i < 30; i++) {
+            DUE.is("much left open", Due.readNet(x, "lulls 1 + (1 + (1 + (1 + (1 +"), Due.fault(1, 29));
+        }
+        DUE.is("a net", Due.readNet(x, TWO + "person p will 9 at mm ; lulls 2 + 1 ;"), 0);
+        x.tie(1, 0);
+        DUE.is("by 3", x.shift(0, 0), 6);
     }
 }

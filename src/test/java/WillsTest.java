@@ -81,13 +81,13 @@ public final class WillsTest {
         x = Due.net(CHAIN);
         x.see(0, 1, 2, false);
         wills(x, "not at b behind 2", 39, 2, 40);
+        for (int what : new int[] {-1, 3, Integer.MAX_VALUE, Integer.MIN_VALUE}) {
+            DUE.is("wills(" + what + ")", x.wills(what), -1);
+        }
         x.see(0, 3, 30, false);
         wills(x, "not at d at last", 1, 2, 2);
         x.see(0, 0, 1, true);
         wills(x, "at a behind 1", 0, -1, -1);
-        for (int what : new int[] {-1, 3, Integer.MAX_VALUE, Integer.MIN_VALUE}) {
-            DUE.is("wills(" + what + ")", x.wills(what), -1);
-        }
         x = Due.net(CHAIN);
         x.see(0, 0, 0, false);
         wills(x, "not where they lay", 0, -1, -1);
@@ -140,6 +140,25 @@ public final class WillsTest {
         DUE.is("3 to 40 are never parted", x.ask(), -1);
         x.see(0, 0, 1, true);
         DUE.is("no will is left", x.ask(), -1);
+        x.see(1, 1, 0, true);
+        // from b: behind 2 one of 1 sleeps at c
+        DUE.is("all 40 from b", x.ask(), 2);
+        DUE.is("all 40 from b again", x.ask(), 2);
+        x = Due.net("knot a plain holds 1; knot b plain holds 1; knot c slip holds 12; string a b; string b c;"
+                + "lulls 9 + 9 * (mind = 40);");
+        x.see(0, 1, 1, true);
+        x.see(0, 1, 2, false);
+        x.see(0, 2, 2, false);
+        // 31 to 40 are up behind 2
+        wills(x, "fallen at c", 10, 31, 40);
+        DUE.is("never parted", x.ask(), -1);
+        x = Due.net("knot a plain holds 1; knot b plain holds 1; string a b; string b a;"
+                + "lulls 9 * (mind < 39) + 9 * (mind = 39) * (many = 10);");
+        x.see(0, 0, 6, true);
+        x.see(0, 1, 7, true);
+        wills(x, "still awake behind 7", 2, 39, 40);
+        // the one of 39 sleeps at b behind 15
+        DUE.is("39 and 40", x.ask(), 16);
         x = Due.net(CHAIN);
         x.see(0, 3, 30, false);
         DUE.is("1 and 2", x.ask(), 2);
@@ -305,5 +324,12 @@ public final class WillsTest {
             DUE.is("seasons of nobody", x.seasons(5, 9, what), 0);
             DUE.is("seasons of no net", new HammockNet().seasons(5, 9, what), 0);
         }
+        x = Due.net("knot a plain holds 1; knot b slip holds 1; string a b; string b a; person p will 40 at a; lulls 0;");
+        DUE.is("one falls", x.seasons(1, 1, 0), 1);
+        boolean liesAtLast = false;
+        for (int seed = 0; seed < 100; seed++) {
+            liesAtLast |= x.seasons(seed, 5, 1) == 1;
+        }
+        DUE.is("one lies again by some seed", liesAtLast, true);
     }
 }
