@@ -9,6 +9,9 @@ import java.util.ArrayList;
 import java.util.HashSet;
 import java.util.List;
 import java.util.Set;
+import java.util.regex.Matcher;
+import java.util.regex.Pattern;
+import java.util.stream.Stream;
 
 /** The face of the class, and those rules of ../shared/LANGUAGE.md that can be seen from outside. */
 public final class LanguageTest {
@@ -26,6 +29,11 @@ public final class LanguageTest {
     private static final String[] FORBIDDEN = {"->", "::", "static {", "synchronized", "assert ", "finally", "catch",
         "instanceof", "System.out", "null", " var ", "record ", "Exact("};
 
+    private static final Set<String> LIBRARY = Set.of("String", "StringBuilder", "Integer", "Long", "Math", "System", "Arrays",
+        "ArrayList", "List", "Iterator", "Iterable", "Comparable", "NoSuchElementException");
+    private static final Set<String> FUNCTIONS = Set.of("System.arraycopy", "Arrays.copyOf", "Arrays.copyOfRange",
+        "Arrays.fill", "Math.max", "Math.min", "Math.abs", "Math.floorDiv", "Math.floorMod", "Integer.bitCount",
+        "Integer.compare", "Integer.max", "Integer.min", "Long.compare", "Long.max", "Long.min", "List.of");
     private static final int MOST_LINES = 60;
 
     private LanguageTest() {
@@ -36,6 +44,9 @@ public final class LanguageTest {
         members();
         inside();
         source();
+        library();
+        textsAndThrows();
+        oneFile();
         DUE.end();
     }
 
@@ -122,6 +133,49 @@ public final class LanguageTest {
             }
         }
         DUE.is("imports", imports, 1);
+    }
+
+    private static String codeWithTexts() throws IOException {
+        String all = Files.readString(Path.of("src/main/java/HammockNet.java"));
+        return all.replaceAll("(?s)/\\*.*?\\*/|//[^\n]*", " ").replaceAll("import [^;]*;", " ");
+    }
+
+    /** Each name with a capital and small letters is that of a class of its own or of rule 4's library. */
+    private static void library() throws IOException {
+        Set<String> own = new HashSet<>(Set.of("HammockNet"));
+        for (Class<?> each : HammockNet.class.getDeclaredClasses()) {
+            own.add(each.getSimpleName());
+        }
+        String code = codeWithTexts().replaceAll("\"[^\"\n]*\"|'[^']*'", " ");
+        Matcher name = Pattern.compile("\\b([A-Z][A-Za-z]*[a-z][A-Za-z]*)\\b(\\.[a-z]\\w*)?").matcher(code);
+        int found = 0;
+        while (name.find()) {
+            found++;
+            String type = name.group(1);
+            DUE.is("there is " + type, own.contains(type) || LIBRARY.contains(type), true);
+            if (LIBRARY.contains(type) && name.group(2) != null) {
+                DUE.is("the library has " + name.group(), FUNCTIONS.contains(name.group()), true);
+            }
+        }
+        DUE.is("names were found", found > 100, true);
+    }
+
+    private static void textsAndThrows() throws IOException {
+        String code = codeWithTexts();
+        DUE.is("a text is joined by +", Pattern.compile("\\+ *\"|\" *\\+").matcher(code).find(), false);
+        Matcher thrown = Pattern.compile("\\bthrow\\b[^;]*").matcher(code);
+        int found = 0;
+        while (thrown.find()) {
+            found++;
+            DUE.is(thrown.group(), thrown.group().matches("throw new NoSuchElementException\\(\"[a-z ]*\"\\)"), true);
+        }
+        DUE.is("throws were found", found > 0, true);
+    }
+
+    private static void oneFile() throws IOException {
+        try (Stream<Path> files = Files.walk(Path.of("src/main"))) {
+            DUE.is("files of the program", files.filter(Files::isRegularFile).count(), 1);
+        }
     }
 
     /** Up to the bracket that stands as far in as the head does. */

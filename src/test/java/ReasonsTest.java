@@ -16,14 +16,7 @@ public final class ReasonsTest {
 
     /** So many KNOTS a, b .. and pairs, as "ab" for against a b. */
     private static HammockNet reasons(int knots, String... pairs) {
-        StringBuilder text = new StringBuilder();
-        for (int i = 0; i < knots; i++) {
-            text.append("knot ").append((char) ('a' + i)).append(" plain holds 1;");
-        }
-        for (String pair : pairs) {
-            text.append("against ").append(pair.charAt(0)).append(' ').append(pair.charAt(1)).append(';');
-        }
-        return Due.net(text.toString());
+        return Due.net(Due.knots(knots, "plain", 1) + Due.pairs("against", pairs));
     }
 
     private static void check(String name, HammockNet x, int stands, int largest, int whole, int sure) {

@@ -29,17 +29,9 @@ public final class StringsTest {
         DUE.end();
     }
 
-    private static String knots(int many, String kind, int holds) {
-        StringBuilder text = new StringBuilder();
-        for (int i = 0; i < many; i++) {
-            text.append("knot ").append((char) ('a' + i)).append(' ').append(kind).append(" holds ").append(holds).append(';');
-        }
-        return text.toString();
-    }
-
     /** A chain of strings from a to b to c .. */
     private static String chain(int many) {
-        StringBuilder text = new StringBuilder(knots(many, "plain", 1));
+        StringBuilder text = new StringBuilder(Due.knots(many, "plain", 1));
         for (int i = 1; i < many; i++) {
             text.append("string ").append((char) ('a' + i - 1)).append(' ').append((char) ('a' + i)).append(';');
         }
@@ -348,12 +340,12 @@ public final class StringsTest {
         DUE.is("the winner soon", x.pull(2), 7);
         x.tie(2, 5);
         DUE.is("the winner soon, of more", x.pull(2), 7);
-        x = Due.net(knots(4, "plain", 1) + "string a b; string a c; string a d;");
+        x = Due.net(Due.knots(4, "plain", 1) + "string a b; string a c; string a d;");
         DUE.is("of equal ones the first", x.pull(0), 1);
         x.tie(0, 1);
         DUE.is("the first of two", x.pull(0), 2);
         // b and c wins for the other one, d a ring with a
-        x = Due.net(knots(5, "plain", 1) + "string a b; string a c; string a d; string d a; string b e; string c e;");
+        x = Due.net(Due.knots(5, "plain", 1) + "string a b; string a c; string a d; string d a; string b e; string c e;");
         DUE.is("rather never", x.pull(0), 3);
         DUE.is("it never ends", x.tug(0, 0), 2);
     }

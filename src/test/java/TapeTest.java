@@ -130,14 +130,6 @@ public final class TapeTest {
         fault(PP + "string kk pp ;", 2, 81);
     }
 
-    private static String knots(int many) {
-        StringBuilder text = new StringBuilder();
-        for (int i = 0; i < many; i++) {
-            text.append("knot ").append((char) ('a' + i)).append(" plain holds 1;");
-        }
-        return text.toString();
-    }
-
     private static String pairs(String word, int many) {
         StringBuilder text = new StringBuilder();
         int told = 0;
@@ -151,10 +143,10 @@ public final class TapeTest {
     }
 
     private static void netLimits() {
-        fine(knots(8));
-        fault(knots(9), 5, knots(8).length());
-        fault(knots(8) + "knot", 5, knots(8).length());
-        String five = knots(5);
+        fine(Due.knots(8, "plain", 1));
+        fault(Due.knots(9, "plain", 1), 5, Due.knots(8, "plain", 1).length());
+        fault(Due.knots(8, "plain", 1) + "knot", 5, Due.knots(8, "plain", 1).length());
+        String five = Due.knots(5, "plain", 1);
         fine(five + pairs("string", 16) + pairs("against", 12));
         fault(five + pairs("string", 16) + "string zz", 5, (five + pairs("string", 16)).length());
         fault(five + pairs("against", 12) + "against", 5, (five + pairs("against", 12)).length());
@@ -164,9 +156,7 @@ public final class TapeTest {
     }
 
     private static void names() {
-        String[] reserved = {"knot", "holds", "string", "against", "person", "will", "at", "lulls", "hour", "shift",
-            "rouse", "lie", "tie", "plain", "firm", "slip", "dent", "not", "and", "or"};
-        for (String word : reserved) {
+        for (String word : Due.RESERVED) {
             fault("knot " + word + " plain holds 1;", 1, 5);
         }
         String[] free = {"hold", "mind", "many", "others", "knots", "a", "wil", "z"};

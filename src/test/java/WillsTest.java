@@ -289,33 +289,11 @@ public final class WillsTest {
             x.hour();
             copy.hour();
             int hours = 1 + seed % 99;
-            int falls = played(copy, seed, hours);
+            int falls = Due.played(copy, seed, hours);
             DUE.is("falls by " + seed, x.seasons(seed, hours, 0), falls);
             DUE.is("who lies by " + seed, x.seasons(seed, hours, 1), copy.count(4));
             DUE.is("will by " + seed, x.seasons(seed, hours, 2), copy.count(6));
         }
-    }
-
-    private static int played(HammockNet copy, int seed, int hours) {
-        long g = seed;
-        int falls = 0;
-        int[] below = {3, 4, 5};
-        int[] drawn = new int[3];
-        for (int hour = 0; hour < hours; hour++) {
-            for (int i = 0; i < 3; i++) {
-                g = (g * 1103515245L + 12345L) % (1L << 31);
-                drawn[i] = (int) (g / 65536 % below[i]);
-            }
-            if (drawn[2] == 0) {
-                copy.rouse(drawn[0]);
-            } else if (drawn[2] == 1) {
-                copy.lie(drawn[0], drawn[1]);
-            } else if (drawn[2] < 4 && copy.shift(drawn[0], drawn[1]) >= 0 && copy.person(drawn[0], 1) < 0) {
-                falls++;
-            }
-            falls += Integer.bitCount(copy.hour());
-        }
-        return falls;
     }
 
     private static void seasonsWithoutPersons() {
