@@ -28,6 +28,7 @@ public final class WillsEdgesTest {
         askThirty();
         askNone();
         askUp();
+        askOfAll();
         chanceEdges();
         chanceHours();
         chanceOthers();
@@ -38,7 +39,8 @@ public final class WillsEdgesTest {
         seasonsEdges();
         seasonsOthers();
         seasonsOfNobody();
-        drawsOfOne();
+        drawsByHand();
+        drawsBelowOne();
         seasonsFalls();
         asAhead();
         DUE.end();
@@ -317,6 +319,19 @@ public final class WillsEdgesTest {
         return Due.net(RING + "knot c slip holds 0; string a c; string b c; person p will 40 at a; " + more + "lulls 0;");
     }
 
+    private static void askOfAll() {
+        DUE.about("an unknown PERSON of an unknown will (1 to 40); the least number of HOURS");
+        // behind 1: 20 at b, 20 up; behind 2: 9 asleep at b, 11 at c, 20 up still, without 40 but 19
+        HammockNet x = Due.net("knot a plain holds 5; knot b slip holds 20; knot c plain holds 5; string a b; string b c;"
+                + "lulls (mind < 11) * (many = 0) * 9;");
+        x.see(0, 0, 0, true);
+        DUE.is("40 counts", x.ask(), 1);
+        // behind 1: 20 at b, 20 up; behind 2: 20 at c
+        x = Due.net("knot a plain holds 5; knot b slip holds 20; knot c plain holds 5; string a b; string b c; lulls 0;");
+        x.see(0, 0, 0, true);
+        DUE.is("the first of equal ones", x.ask(), 1);
+    }
+
     private static void chanceEdges() {
         DUE.about("CHANCE: in each of so many (1 to 6) HOURS a PERSON, by odds of ten (0 to 10) .. in millionths, cut");
         HammockNet x = odd("");
@@ -480,7 +495,7 @@ public final class WillsEdgesTest {
         }
     }
 
-    private static void drawsOfOne() {
+    private static void drawsByHand() {
         DUE.about("A DRAW below m: g becomes (g * 1103515245 + 12345) modulo 2147483648 (g is the SEED at first); "
                 + "it is g / 65536, cut, modulo m.");
         // by 0: 0, 21468, 9988; by 1: 16838, 5758, 10113; by 2: 908, 22817, 10239
@@ -493,6 +508,25 @@ public final class WillsEdgesTest {
         DUE.is("p to b", Due.net(net).seasons(1, 1, 0), 1);
         DUE.is("q lies", Due.net(net).seasons(1, 1, 1), 2);
         DUE.is("4: nothing is done, then the hour", Due.net(net).seasons(2, 1, 1), 3);
+    }
+
+    private static void drawsBelowOne() {
+        DUE.about("a DRAW below PERSONS, one below KNOTS, one below 5");
+        for (int seed = 0; seed < 60; seed++) {
+            String one = "knot a plain holds 1; person p will 9 at a;";
+            HammockNet copy = Due.net(one);
+            Due.played(copy, seed, 1 + seed % 7);
+            DUE.is("one at one by " + seed, Due.net(one).seasons(seed, 1 + seed % 7, 1), copy.count(4));
+            String ring = RING + "person p will 40 at a; lulls 0;";
+            copy = Due.net(ring);
+            Due.played(copy, seed, 1 + seed % 7);
+            DUE.is("one at two by " + seed, Due.net(ring).seasons(seed, 1 + seed % 7, 1), copy.count(4));
+        }
+        int up = 0;
+        for (int seed = 0; seed < 60; seed++) {
+            up += 1 - Due.net("knot a plain holds 1; person p will 9 at a;").seasons(seed, 1, 1);
+        }
+        DUE.is("some are roused, and some are not", up > 0 && up < 60, true);
     }
 
     private static void seasonsFalls() {
