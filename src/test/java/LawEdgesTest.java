@@ -147,7 +147,7 @@ public final class LawEdgesTest {
     }
 
     private static void deepest() {
-        DUE.about("no PART lies within 5 of not and ( ); 5 .. not, or a PART, within 5 others");
+        DUE.about("no PART lies within 5 of not and ( ) .. 5 one too many .. not, or a PART, within 5 others");
         for (String part : new String[] {"1", "hold", "mind", "many", "others", "not 1", "(1)"}) {
             fault("((((( " + part + ")))));", 5, 12);
             fault("not not not not not " + part + ";", 5, 26);
@@ -184,7 +184,7 @@ public final class LawEdgesTest {
     }
 
     private static void facts() {
-        DUE.about("hold (what the KNOT to which one shifts holds), mind (one's will ahead of it), many (how often one has "
+        DUE.about("Facts: hold (what the KNOT to which one shifts holds), mind (one's will ahead of it), many (how often one has "
                 + "shifted ahead of it), others (how many others are awake or asleep at that KNOT)");
         String net = "knot a plain holds 3; knot b plain holds 7; string a b; string b a; person p will 40 at a;"
                 + "person q will 0 at b; person r will 9 at b; person s will 0 at a; lulls ";

@@ -55,7 +55,7 @@ public final class MarksEdgesTest {
     }
 
     private static void nothingOnIt() {
-        DUE.about("mark: .. false: .. nothing is on it (back)");
+        DUE.about("false: none such, nothing is on it (back)");
         HammockNet x = Due.net(NET);
         x.mark(1, false);
         x.hour();
@@ -225,7 +225,7 @@ public final class MarksEdgesTest {
     }
 
     private static void countFull() {
-        DUE.about("count: What 0: KNOTS, .. 10: signs on the TAPE.");
+        DUE.about("What 0: KNOTS .. 10: signs on the TAPE.");
         HammockNet x = Due.net(Due.knots(8, "plain", 1) + "person p will 40 at h; person q will 40 at h; person r will 40 at h;"
                 + "person s will 40 at h;");
         for (int i = 0; i < 64; i++) {
@@ -243,7 +243,7 @@ public final class MarksEdgesTest {
     }
 
     private static void countEach() {
-        DUE.about("count: .. 4: who lies, as bits, 5: who is awake, as bits, 6: the will of all, together");
+        DUE.about("4: who lies, as bits, 5: who is awake, as bits, 6: the will of all, together");
         HammockNet x = Due.net(NET);
         DUE.is("all lie", x.count(4), 15);
         DUE.is("q sleeps", x.count(5), 13);
@@ -259,7 +259,7 @@ public final class MarksEdgesTest {
     }
 
     private static void fiveHundredAndTwelve() {
-        DUE.about("An object is used for at most 512 calls after it has been made");
+        DUE.about("An object is used for at most 512 calls after it has been made; what later calls answer is free.");
         HammockNet x = new HammockNet();
         for (int call = 1; call <= 508; call++) {
             x.hour();

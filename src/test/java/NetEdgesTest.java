@@ -71,7 +71,7 @@ public final class NetEdgesTest {
     }
 
     private static void eightKnots() {
-        DUE.about("knot: 8 at most, numbered as told; 5 one too many: the words knot of a ninth");
+        DUE.about("knot: 8 at most, numbered as told .. 5 one too many: the words knot of a ninth");
         String eight = Due.knots(8, "plain", 1);
         HammockNet x = fine(eight);
         DUE.is("eight", x.count(0), 8);
@@ -100,7 +100,7 @@ public final class NetEdgesTest {
     }
 
     private static void holds() {
-        DUE.about("holds 0 to 20; 4 a NUMBER that is not as told");
+        DUE.about("holds 0 to 20 .. 4 a NUMBER that is not as told");
         for (int holds : new int[] {0, 1, 19, 20}) {
             DUE.is("holds", fine("knot a plain holds " + holds + ";").knot(0, 1), holds);
         }
@@ -116,7 +116,7 @@ public final class NetEdgesTest {
     }
 
     private static void sixteenStrings() {
-        DUE.about("string: 16 at most; 5 .. string of a seventeenth");
+        DUE.about("string: 16 at most .. 5 one too many .. string of a seventeenth");
         String five = Due.knots(5, "plain", 1);
         DUE.is("sixteen", fine(five + pairs("string", 16)).count(1), 16);
         String full = five + pairs("string", 16);
@@ -144,7 +144,7 @@ public final class NetEdgesTest {
     }
 
     private static void twelveAgainst() {
-        DUE.about("against: 12 at most; 5 .. against of a thirteenth");
+        DUE.about("against: 12 at most .. 5 one too many .. against of a thirteenth");
         String five = Due.knots(5, "plain", 1);
         HammockNet x = fine(five + pairs("against", 12));
         DUE.is("c is against four", x.knot(2, 3), 27);
@@ -172,7 +172,7 @@ public final class NetEdgesTest {
     }
 
     private static void fourPersons() {
-        DUE.about("person: 4 at most, numbered as told; 5 .. person of a fifth");
+        DUE.about("person: 4 at most, numbered as told .. 5 one too many .. person of a fifth");
         String four = Due.knots(4, "plain", 1) + FOUR_LIE;
         HammockNet x = fine(four);
         DUE.is("four", x.count(2), 4);
@@ -213,7 +213,7 @@ public final class NetEdgesTest {
     }
 
     private static void lullsOnce() {
-        DUE.about("lulls: once; 3 .. lulls a second time");
+        DUE.about("lulls: once .. 3 a NAME told already .. lulls a second time");
         fault("lulls 1 ; lulls 2 ;", 3, 10);
         fault("lulls 1 ; lulls", 3, 10);
         fault("lulls 1 ; " + TWO + "lulls x", 3, 57);
@@ -258,7 +258,7 @@ public final class NetEdgesTest {
     }
 
     private static void noTwoAlike() {
-        DUE.about("no two (KNOTS, PERSONS) are alike; 3 a NAME told already");
+        DUE.about("no two (KNOTS, PERSONS) are alike .. 3 a NAME told already");
         fault("knot a plain holds 1; knot a plain holds 1;", 3, 27);
         fault(TWO + "knot bb slip", 3, 52);
         fault(TWO + "person aa will", 3, 54);

@@ -41,7 +41,7 @@ public final class RestEdgesTest {
     }
 
     private static void anyNumberUpToForty() {
-        DUE.about("any number of .. 40 lines at most; 5 .. the first word of a 41st line of a REST");
+        DUE.about("any number of .. 40 lines at most .. 5 one too many .. the first word of a 41st line of a REST");
         fine("", 0);
         fine(" \n", 0);
         fine("hour ;", 1);

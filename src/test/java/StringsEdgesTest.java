@@ -101,7 +101,7 @@ public final class StringsEdgesTest {
     }
 
     private static void farEdges() {
-        DUE.about("FAR of two KNOTS: by how many strings, at least; far: (0: the same); NONE: .. never");
+        DUE.about("FAR of two KNOTS: by how many strings, at least. .. FAR (0: the same); NONE: others, never");
         for (int knot = 0; knot < 8; knot++) {
             DUE.is("the same in a ring", ring().far(knot, knot), 0);
             DUE.is("the same in a chain", chain().far(knot, knot), 0);
@@ -258,7 +258,7 @@ public final class StringsEdgesTest {
     }
 
     private static void goalWhereTheyLie() {
-        DUE.about("GOAL: .. (0: they do)");
+        DUE.about("GOAL of a PERSON .. (0: they do)");
         HammockNet x = Due.net(RING + "person p will 9 at a; person q will 0 at b;");
         DUE.is("at a", x.goal(0, 0), 0);
         DUE.is("at b by one", x.goal(0, 1), 1);
@@ -273,7 +273,7 @@ public final class StringsEdgesTest {
     }
 
     private static void goalByThirty() {
-        DUE.about("GOAL .. the fewest SHIFTS (30 at most); goal: .. NONE: .. not by 30");
+        DUE.about("GOAL .. the fewest SHIFTS (30 at most) .. GOAL; NONE: others, not awake, not by 30");
         DUE.is("by 30, with 10", slipBehind(10, "a").goal(0, 2), 30);
         DUE.is("by 29, with 11", slipBehind(11, "b").goal(0, 2), 29);
         DUE.is("by 31, with 9", slipBehind(9, "b").goal(0, 2), -1);
@@ -325,7 +325,7 @@ public final class StringsEdgesTest {
     }
 
     private static void dozeByThirty() {
-        DUE.about("DOZE: likewise, by which they are asleep; (30 at most) .. NONE: .. not by 30");
+        DUE.about("(30 at most) .. DOZE: likewise, by which they are asleep. .. DOZE; NONE: others, not awake, not by 30");
         for (int will : new int[] {1, 2, 29, 30}) {
             DUE.is("of " + will, Due.net(RING + "person p will " + will + " at a;").doze(0), will);
         }
@@ -358,7 +358,7 @@ public final class StringsEdgesTest {
     }
 
     private static void tilesByThirty() {
-        DUE.about("TILES: by which they fall through; (30 at most) .. NONE: .. not by 30");
+        DUE.about("(30 at most) .. TILES: by which they fall through. .. TILES; NONE: others, not awake, not by 30");
         DUE.is("by 30", fallBehind(30, "a").tiles(0), 30);
         DUE.is("by 29", fallBehind(29, "b").tiles(0), 29);
         DUE.is("by 31", fallBehind(31, "b").tiles(0), -1);

@@ -53,7 +53,7 @@ public final class TapeEdgesTest {
     }
 
     private static void thousandSigns() {
-        DUE.about("The TAPE has at most 1,000 signs");
+        DUE.about("The TAPE has at most 1,000 signs, 10 and 32 .. 126");
         String net = "knot a plain holds 13 ;";
         HammockNet x = new HammockNet();
         DUE.is("999 signs", Due.feed(x, " ".repeat(999 - net.length()) + net), 999);

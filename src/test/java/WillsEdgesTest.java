@@ -81,7 +81,7 @@ public final class WillsEdgesTest {
     }
 
     private static void eightAtMost() {
-        DUE.about("8 at most; see: .. false: .. 8 there are from that");
+        DUE.about("8 at most .. false: others, 8 there are from that");
         HammockNet x = Due.net(RING);
         for (int i = 1; i <= 8; i++) {
             DUE.is("sight " + i, x.see(0, 1, 1, true), true);
@@ -103,7 +103,7 @@ public final class WillsEdgesTest {
     }
 
     private static void beginsAnew() {
-        DUE.about("all from one told KNOT (with another one it begins anew)");
+        DUE.about("all from one told KNOT (with another one it begins anew ..)");
         HammockNet x = Due.net(RING);
         x.see(0, 0, 1, true);
         x.see(0, 0, 1, true);
@@ -120,7 +120,7 @@ public final class WillsEdgesTest {
     }
 
     private static void nothingSeen() {
-        DUE.about("wills: what 0: how many (40 if nothing is SEEN)");
+        DUE.about("WILLS, what 0: how many (40 if nothing is SEEN)");
         for (HammockNet x : new HammockNet[] {new HammockNet(), Due.net(RING), Due.net("knot a slip holds 0;")}) {
             DUE.is("wills(0)", x.wills(0), 40);
             DUE.is("wills(1)", x.wills(1), 1);
@@ -167,7 +167,7 @@ public final class WillsEdgesTest {
     }
 
     private static void willsNone() {
-        DUE.about("wills: .. NONE: others, none (but 0)");
+        DUE.about("WILLS .. NONE: others, none (but 0)");
         HammockNet x = Due.net(RING);
         x.see(0, 0, 0, false);
         check(x, 0, -1, -1);
@@ -285,7 +285,7 @@ public final class WillsEdgesTest {
     }
 
     private static void askNone() {
-        DUE.about("ask(): .. NONE: nothing is SEEN, none parts them; if that is less than all");
+        DUE.about("ask(): .. NONE: nothing is SEEN, none parts them .. if that is less than all");
         HammockNet x = Due.net(Due.knots(3, "plain", 1) + Due.pairs("string", "ab", "bc"));
         DUE.is("nothing is seen", x.ask(), -1);
         x.see(0, 1, 30, true);
@@ -320,7 +320,7 @@ public final class WillsEdgesTest {
     }
 
     private static void askOfAll() {
-        DUE.about("an unknown PERSON of an unknown will (1 to 40); the least number of HOURS");
+        DUE.about("an unknown PERSON of an unknown will (1 to 40) .. the least number of HOURS");
         // behind 1: 20 at b, 20 up; behind 2: 9 asleep at b, 11 at c, 20 up still, without 40 but 19
         HammockNet x = Due.net("knot a plain holds 5; knot b slip holds 20; knot c plain holds 5; string a b; string b c;"
                 + "lulls (mind < 11) * (many = 0) * 9;");
@@ -333,7 +333,7 @@ public final class WillsEdgesTest {
     }
 
     private static void chanceEdges() {
-        DUE.about("CHANCE: in each of so many (1 to 6) HOURS a PERSON, by odds of ten (0 to 10) .. in millionths, cut");
+        DUE.about("CHANCE: in each of so many (1 to 6) HOURS a PERSON, by odds of ten .. in millionths, cut .. by odds (0 to 10)");
         HammockNet x = odd("");
         for (int hours = 1; hours <= 6; hours++) {
             for (int odds = 0; odds <= 10; odds++) {
@@ -421,7 +421,7 @@ public final class WillsEdgesTest {
     }
 
     private static void lullIndex() {
-        DUE.about("rests: what NONE: how many; i: the i-th .. (.. the least first) .. NoSuchElementException: .. none such");
+        DUE.about("what NONE: how many; i: the i-th .. the least first) .. NoSuchElementException: others, none such");
         HammockNet x = new HammockNet();
         DUE.is("how many", x.rests(0, 0, 0, HammockNet.NONE), 4);
         for (int i = 0; i < 4; i++) {
@@ -455,7 +455,7 @@ public final class WillsEdgesTest {
     }
 
     private static void seasonsEdges() {
-        DUE.about("SEASONS by a SEED (0 to 9999) of so many (1 to 99) HOURS");
+        DUE.about("SEASONS by a SEED of so many (1 to 99) HOURS .. by a SEED (0 to 9999)");
         String net = RING + "knot c slip holds 0; string a c; person p will 40 at a; person q will 9 at b; person r will 0 at a;"
                 + "person s will 25 at c; lulls others;";
         for (int seed : new int[] {0, 1, 4999, 9998, 9999}) {
