@@ -85,12 +85,15 @@ public final class LanguageTest {
         for (Method method : HammockNet.class.getDeclaredMethods()) {
             DUE.is(method + " is public or private", (method.getModifiers() & (Modifier.PUBLIC | Modifier.PRIVATE)) != 0, true);
         }
+        int fields = 0;
         for (Field field : HammockNet.class.getDeclaredFields()) {
+            fields += Modifier.isStatic(field.getModifiers()) ? 0 : 1;
             boolean isNone = field.getName().equals("NONE") && Modifier.isPublic(field.getModifiers());
             DUE.is(field + " is private", isNone || Modifier.isPrivate(field.getModifiers()), true);
             DUE.is(field + ", static, is final", !Modifier.isStatic(field.getModifiers())
                     || Modifier.isFinal(field.getModifiers()), true);
         }
+        DUE.is("some twenty fields", fields <= 20, true);
         Constructor<?>[] constructors = HammockNet.class.getDeclaredConstructors();
         DUE.is("constructors", constructors.length, 1);
         DUE.is("of no parameters", constructors[0].getParameterCount(), 0);
