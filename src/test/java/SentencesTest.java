@@ -23,6 +23,10 @@ public final class SentencesTest {
     }
 
     public static void main(String[] args) throws IOException {
+        if (!Files.exists(DOCUMENT)) {
+            System.out.println("SentencesTest: there is no " + DOCUMENT + ", nothing was compared");
+            return;
+        }
         String words = promised(Files.readString(DOCUMENT));
         boolean[] quoted = new boolean[words.length()];
         for (Path test : tests()) {
